@@ -199,6 +199,7 @@ public final class Promises {
         noFault("seed0;seed 9999;seed 0001;");
         noFault("tires=1;rests=((over+under)*cross-ends/tired)-minute;pays=which*moves;slips=called;");
         noFault("pays = if over < under then 1 else if cross < ends then 2 else 3;");
+        noFault("square z; square zzzzzzzz; figure azz; figure zza;");
         noFault("square abcdefgh; square squares; square tir; figure t; figure e;");
         RopeDance x = with("square a twist 3 turn twist 0002; figure f back 1 turn; seed 7;");
         tangle(x, 0, 5, 3);
@@ -354,6 +355,27 @@ public final class Promises {
         put(x, "seed 1; pays = 5; square a; pays = 6; seed 2;");
         x.read();
         is("the last LAW of a sort", x.square(0, 6), 6);
+        for (int i = 1; i <= 4; i++) {
+            put(x, "square a twist " + i + "; figure f back 1; figure g turn; slips = " + (i % 2) * 9 + ";");
+            x.read();
+            tangle(x, 0, i, 1);
+            is("a FIGURE of a text anew", x.figure(0, 4), 1);
+            is("a TABLE of a text anew", x.figure(0, 1), -1);
+            is("a LAW of a text anew", x.square(0, 7), (i % 2) * 9);
+            planIs(x, 0, new int[i]);
+            put(x, "square a twist " + i + "; figure f back 1 back 1;");
+            x.read();
+            is("a plan of a text anew", x.plan(0, -1), i % 2 == 0 ? i / 2 : -2);
+            is("a LAW not told anew", x.square(0, 7), 0);
+            is("a LAW not told anew", x.square(0, 5), 1);
+            is("a LAW not told anew", x.square(0, 6), i);
+            is("a LAW not told anew", x.tires(0, 0), 2);
+        }
+        x.tell(1, 0, true);
+        x.hold(0);
+        put(x, "square a;");
+        x.read();
+        is("SLOT 0 anew", x.restore(0), false);
     }
 
     private static void placing() {
@@ -432,6 +454,14 @@ public final class Promises {
         is("cross", pays("cross + 10"), 14);
         is("ends", pays("ends + 10"), 11);
         is("moves of a SQUARE", pays("moves + 10"), 10);
+        is("a long one", pays("1" + times(96, " + 3 - 3") + " + 7"), 8);
+        RopeDance still = with("square a; rests = moves + 3; slips = moves; pays = moves + 1; tires = 9; figure f twist 9 twist 9"
+            + " twist 9 twist 9 twist 9 twist 9 twist 9;");
+        is("RESTS with no moves", still.square(0, 5), 3);
+        is("SLIPS with no moves", still.square(0, 7), 0);
+        still.minutes(2);
+        is("RESTS with no moves, of a MINUTE", still.square(0, 4), 9 - 3);
+        is("PAYS with no moves, of a MINUTE", still.count(3), 2);
         RopeDance x = with("square a; square b back 7; figure f turn turn; tires = 3; pays = which + 10; rests = tired;"
             + "slips = called * 10 + minute; figure g twist 9 twist 9 twist 9 twist 9 twist 9 twist 9 twist 9 twist 9;");
         is("which of the first", x.square(0, 6), 10);
@@ -473,6 +503,13 @@ public final class Promises {
         is("signs", x.figure(1, 0), 1);
         is("signs", x.figure(1, 3), 1);
         is("zeros", x.figure(1, 1), 0);
+        x = with("figure a turn turn turn; figure b turn twist 1 turn twist 1 turn;");
+        int[] threeTurns = {0, 1, -1, 0};
+        int[] turnsAndTwists = {1, -1, 0, 1};
+        for (int what = 0; what < 4; what++) {
+            is("three turns", x.figure(0, what), threeTurns[what]);
+            is("turns and twists", x.figure(1, what), turnsAndTwists[what]);
+        }
     }
 
     private static void tiring() {
@@ -1005,6 +1042,11 @@ public final class Promises {
         is("twice by 97", x.power(2, 2, 97, 1), 2);
         is("twice by 97", x.power(2, 2, 97, 2), 95);
         is("twice by 97", x.power(2, 2, 97, 3), 3);
+        int[] often = {51, 2, 95, 57};
+        RopeDance y = with("figure a turn twist 3;");
+        for (int what = 0; what < 4; what++) {
+            is("turn, twist, often, by 97", y.power(0, 999999999, 97, what), often[what]);
+        }
         is("n -1", x.power(0, -1, 7, 0), -1);
         is("n above", x.power(0, 1000000001, 7, 0), -1);
         is("m 1", x.power(0, 1, 1, 0), -1);
@@ -1146,6 +1188,8 @@ public final class Promises {
         x = with("square a; figure f turn twist 1; seed 9999;");
         is("SEEDS above 9999", x.year(0, 3, 20), 20);
         is("as it is now", x.year(0, 2, 20), 0);
+        is("in 60 minutes", x.year(0, 60, 1), 1);
+        is("in 59 minutes", x.year(0, 59, 1), 0);
     }
 
     private static void telling() {
@@ -1241,9 +1285,18 @@ public final class Promises {
         is("behind more than l", x.listen(1, 0, 2), -2);
         x = with("square a;");
         is("no FIGURES", x.listen(0, 0, 1), -2);
-        // t keeps ENDS, u changes them: behind the last is told most
         x = with("square a; figure t twist 2; figure u twist 4; figure v twist 1;");
-        is("2 and 1 at worst, or 5 and 4", x.listen(0, 0, 2), 2);
+        is("behind the first 6 and 3, behind the second 5 and 4", x.listen(0, 0, 2), 2);
+        is("the same again", x.listen(0, 0, 2), 2);
+        is("of 1", x.listen(0, 0, 1), 1);
+        x = with("square a; figure f; figure g twist 2; figure h twist 4; figure i turn;");
+        is("behind the first 12 and 4, behind the second 10 and 6", x.listen(0, 0, 2), 2);
+        x = with("square a; figure f; figure g twist 1;");
+        // behind the first 2 and 2, behind the second 2 and 2, behind the third 4 and 4
+        is("half of them each time", x.listen(0, 0, 3), 1);
+        x.tell(1, 1, true);
+        x.tell(2, 1, true);
+        is("the last of three", x.listen(2, 0, 3), 3);
     }
 
     private static void holding() {
