@@ -1,11 +1,5 @@
-import java.nio.charset.StandardCharsets;
-
 /** Tests by hand, promise by promise: ordinary inputs, the edges that the document names, wrong inputs. */
-public final class Promises {
-    private static int passed = 0;
-    private static int failed = 0;
-    private static String promise = "";
-
+public final class Promises extends Checks {
     private Promises() {
     }
 
@@ -56,89 +50,11 @@ public final class Promises {
         holding();
         restoring();
         counting();
-        System.out.println("Promises: " + passed + " passed, " + failed + " failed");
-        if (failed > 0) {
-            System.exit(1);
-        }
-    }
-
-    private static void is(String what, long got, long due) {
-        if (got == due) {
-            passed++;
-        } else {
-            failed++;
-            System.out.println(promise + ": " + what + " answered " + got + ", due is " + due);
-        }
-    }
-
-    private static void is(String what, boolean got, boolean due) {
-        is(what, got ? 1 : 0, due ? 1 : 0);
-    }
-
-    /** Puts a text on the tape: twenty bytes a feed, and what is too much back again. */
-    private static void put(RopeDance x, String text) {
-        byte[] bytes = text.getBytes(StandardCharsets.ISO_8859_1);
-        for (int at = 0; at < bytes.length; at += 20) {
-            int[] five = new int[5];
-            for (int i = 0; i < 20; i++) {
-                five[i / 4] = five[i / 4] << 8 | (at + i < bytes.length ? bytes[at + i] & 255 : 0);
-            }
-            x.feed(five[0], five[1], five[2], five[3], five[4]);
-        }
-        x.back((20 - bytes.length % 20) % 20);
-    }
-
-    private static RopeDance with(String text) {
-        RopeDance x = new RopeDance();
-        put(x, text);
-        is("read of: " + text, x.read(), 0);
-        return x;
-    }
-
-    private static void fault(String text, int number, int place) {
-        RopeDance x = new RopeDance();
-        put(x, text);
-        String shown = text.length() > 70 ? text.substring(0, 70) + ".." : text;
-        is("read of: " + shown, x.read(), number);
-        is("place of: " + shown, x.place(), place);
-    }
-
-    private static void noFault(String text) {
-        fault(text, 0, -1);
-    }
-
-    private static void tangle(RopeDance x, int square, int p, int q) {
-        is("square(" + square + ", 0)", x.square(square, 0), p);
-        is("square(" + square + ", 1)", x.square(square, 1), q);
-    }
-
-    /** All things of a row of steps, and what is behind and ahead of them. */
-    private static void stepsAre(RopeDance x, int square, int... due) {
-        for (int i = 0; i < due.length; i++) {
-            is("step(" + square + ", " + i + ")", x.step(square, i), due[i]);
-        }
-        is("step behind the last", x.step(square, due.length), -1000);
-        is("step ahead of the first", x.step(square, -1), -1000);
-    }
-
-    private static void planIs(RopeDance x, int square, int... due) {
-        is("plan(" + square + ", NONE)", x.plan(square, -1), due.length);
-        for (int i = 0; i < due.length; i++) {
-            is("plan(" + square + ", " + i + ")", x.plan(square, i), due[i]);
-        }
-        is("plan behind the last", x.plan(square, due.length), -1);
-    }
-
-    private static String times(int n, String part) {
-        StringBuilder all = new StringBuilder();
-        for (int i = 0; i < n; i++) {
-            all.append(part);
-        }
-        return all.toString();
+        end("Promises");
     }
 
     private static void newObject() {
-        promise = "1";
+        about = "promise 1";
         RopeDance x = new RopeDance();
         is("NONE", RopeDance.NONE, -1);
         for (int what = 0; what <= 13; what++) {
@@ -150,7 +66,7 @@ public final class Promises {
     }
 
     private static void feeding() {
-        promise = "2";
+        about = "promise 2";
         RopeDance x = new RopeDance();
         // "square a twist 2;" and three blanks
         is("feed", x.feed(0x73717561, 0x72652061, 0x20747769, 0x73742032, 0x3b202020), 20);
@@ -170,7 +86,7 @@ public final class Promises {
     }
 
     private static void goingBack() {
-        promise = "3";
+        about = "promise 3";
         RopeDance x = new RopeDance();
         is("back(0) of nothing", x.back(0), 0);
         is("back(1) of nothing", x.back(1), -1);
@@ -190,7 +106,7 @@ public final class Promises {
     }
 
     private static void reading() {
-        promise = "4 (read)";
+        about = "promise 4 (read)";
         noFault("");
         noFault(" \n\t\r");
         noFault("square a;");
@@ -208,7 +124,7 @@ public final class Promises {
     }
 
     private static void faultsOfSyntax() {
-        promise = "4 (SYNTAX)";
+        about = "promise 4 (SYNTAX)";
         fault("a", 1, 0);
         fault("  7", 1, 2);
         fault(";", 1, 0);
@@ -260,7 +176,7 @@ public final class Promises {
     }
 
     private static void faultsOfRoom() {
-        promise = "4 (ROOM)";
+        about = "promise 4 (ROOM)";
         String squares = "square a;square b;square c;square d;";
         noFault(squares);
         fault(squares + "square e;", 2, 36);
@@ -296,7 +212,7 @@ public final class Promises {
     }
 
     private static void faultsOfSense() {
-        promise = "4 (TWICE, WRONG, KNOT)";
+        about = "promise 4 (TWICE, WRONG, KNOT)";
         fault("square a;square a;", 3, 16);
         fault("square a;figure a;", 3, 16);
         fault("figure a;square b;figure a;", 3, 25);
@@ -321,7 +237,7 @@ public final class Promises {
     }
 
     private static void readingAnew() {
-        promise = "4 (what a text changes)";
+        about = "promise 4 (what a text changes)";
         RopeDance x = with("square a twist 3; figure f twist 1; tires = 2; seed 5;");
         x.call(0, 0);
         x.minutes(2);
@@ -379,7 +295,7 @@ public final class Promises {
     }
 
     private static void placing() {
-        promise = "5";
+        about = "promise 5";
         RopeDance x = new RopeDance();
         is("ahead of any read", x.place(), -1);
         put(x, "square a");
@@ -395,7 +311,7 @@ public final class Promises {
     }
 
     private static void squares() {
-        promise = "6";
+        about = "promise 6";
         RopeDance x = with("square a twist 3 turn twist 2; square b back 1; square c turn; square d;"
             + "figure f twist 1; rests = 4; slips = 30;");
         int[][] due = {{5, 3, 4, 1, 0, 4, 4, 30, 0}, {-1, 1, 1, 1, 0, 4, 1, 30, 0}, {1, 0, 0, 2, 0, 4, 0, 30, 0},
@@ -425,7 +341,7 @@ public final class Promises {
     }
 
     private static void laws() {
-        promise = "6 (LAWS)";
+        about = "promise 6 (LAWS)";
         is("left to right", pays("9 - 4 - 3"), 2);
         is("division on end", pays("80 / 4 / 2"), 10);
         is("division ahead of times", pays("7 / 2 * 2"), 6);
@@ -485,7 +401,7 @@ public final class Promises {
     }
 
     private static void figures() {
-        promise = "7";
+        about = "promise 7";
         RopeDance x = with("figure a twist 9 turn twist 9; figure b back 1 turn back 1; figure c; figure d turn;"
             + "figure e turn twist 3 turn turn back 2;");
         int[][] due = {{9, 80, 1, 9, 3}, {1, 0, -1, 1, 3}, {1, 0, 0, 1, 0}, {0, 1, -1, 0, 1}, {1, -1, 1, 0, 5}};
@@ -513,7 +429,7 @@ public final class Promises {
     }
 
     private static void tiring() {
-        promise = "8";
+        about = "promise 8";
         RopeDance x = with("square a twist 5; square b turn; figure f twist 1 turn; figure g; tires = moves * 10 + cross;");
         is("tires(0, 0)", x.tires(0, 0), 25);
         is("tires(0, 1)", x.tires(0, 1), 5);
@@ -530,7 +446,7 @@ public final class Promises {
     }
 
     private static void after() {
-        promise = "9";
+        about = "promise 9";
         RopeDance x = with("square a twist 3 turn twist 2; square b turn; figure f turn twist 2; figure g twist 9 turn twist 9;"
             + "figure h twist 9 twist 9 twist 9 twist 9 back 9 back 9 back 9 back 9;");
         is("P", x.after(0, 0, 0), 7);
@@ -549,7 +465,7 @@ public final class Promises {
     }
 
     private static void calling() {
-        promise = "10";
+        about = "promise 10";
         RopeDance x = with("square a twist 3 turn twist 2; square b; figure f turn twist 2; figure g twist 9 turn twist 9;"
             + "tires = 90 + over;");
         is("call", x.call(0, 0), 1 + 2 + 2);
@@ -571,7 +487,7 @@ public final class Promises {
     }
 
     private static void moving() {
-        promise = "11";
+        about = "promise 11";
         RopeDance x = with("square a; square b turn;");
         is("twist", x.move(0, 0, 9), true);
         tangle(x, 0, 9, 1);
@@ -613,7 +529,7 @@ public final class Promises {
     }
 
     private static void letting() {
-        promise = "12";
+        about = "promise 12";
         RopeDance x = with("square a twist 3; square b turn; square c; figure f twist 1;");
         x.call(0, 0);
         is("let", x.let(0), true);
@@ -630,7 +546,7 @@ public final class Promises {
     }
 
     private static void minutes() {
-        promise = "13";
+        about = "promise 13";
         RopeDance x = with("square a; square b twist 2; figure r twist 1; figure s turn; figure t; seed 7;"
             + "tires = 5; pays = 1 + which; rests = 2;");
         is("minutes(-1)", x.minutes(-1), -1);
@@ -706,7 +622,7 @@ public final class Promises {
     };
 
     private static void minutesThatSlip() {
-        promise = "13 (SLIPS)";
+        about = "promise 13 (SLIPS)";
         RopeDance x = with("square a; figure f twist 1 twist 2 twist 3; slips = 100; tires = moves * 10;");
         x.minutes(1);
         tangle(x, 0, 3, 1);
@@ -744,7 +660,7 @@ public final class Promises {
     private static final int[] SLIPS = {53, 0, 38, 57, 7, 34, 12, 47};
 
     private static void undoing() {
-        promise = "14";
+        about = "promise 14";
         RopeDance x = with("square a twist 3; square b turn; figure f twist 1; tires = 4;");
         is("nothing done", x.undo(), false);
         x.call(0, 0);
@@ -784,7 +700,7 @@ public final class Promises {
     }
 
     private static void least() {
-        promise = "15";
+        about = "promise 15";
         RopeDance x = with("square a twist 3 turn twist 2; square b back 1; square c turn; square d;");
         is("5 / 3", x.least(0), 6);
         is("-1 / 1", x.least(1), 1);
@@ -801,7 +717,7 @@ public final class Promises {
     }
 
     private static void ways() {
-        promise = "16";
+        about = "promise 16";
         RopeDance x = with("square a twist 3 turn twist 2; square b back 1; square c turn; square d;");
         is("5 / 3", x.ways(0), 3);
         is("-1 / 1", x.ways(1), 1);
@@ -816,7 +732,7 @@ public final class Promises {
     }
 
     private static void steps() {
-        promise = "17";
+        about = "promise 17";
         RopeDance x = with("square a twist 3 turn twist 2; square b back 1; square c turn; square d;");
         stepsAre(x, 0, -1, 100, 1, 100, -2);
         stepsAre(x, 1, 1);
@@ -836,7 +752,7 @@ public final class Promises {
     }
 
     private static void plans() {
-        promise = "18";
+        about = "promise 18";
         RopeDance x = with("square a twist 3 turn twist 2; square b back 1; square c turn; square d;"
             + "figure s twist 1; figure h turn; figure r twist 1 turn twist 1; figure u back 1 turn back 1;");
         planIs(x, 0, 1, 2, 0, 2, 0);
@@ -869,7 +785,7 @@ public final class Promises {
     }
 
     private static void bringing() {
-        promise = "19";
+        about = "promise 19";
         RopeDance x = with("square a twist 3 turn twist 2; square b back 1; square c turn; square d turn;"
             + "figure s twist 1; figure h turn; figure r twist 1 turn twist 1; figure u back 1 turn back 1;");
         is("how many", x.bring(1, 2, -1), 1);
@@ -894,7 +810,7 @@ public final class Promises {
     }
 
     private static void reaching() {
-        promise = "20";
+        about = "promise 20";
         RopeDance x = with("square a; square b turn; figure f turn twist 1;");
         is("0 / 1, 1 / 0, 1 / 1", x.reach(0), 3);
         is("no such", x.reach(2), -1);
@@ -911,7 +827,7 @@ public final class Promises {
     }
 
     private static void alike() {
-        promise = "21";
+        about = "promise 21";
         RopeDance x = with("square a twist 3 turn twist 2; square b back 1; square c turn; square d back 2 turn back 3;");
         is("with itself", x.alike(0, 0), 1);
         is("5 / 3 and -1 / 1", x.alike(0, 1), 0);
@@ -939,7 +855,7 @@ public final class Promises {
     }
 
     private static void closed() {
-        promise = "22";
+        about = "promise 22";
         RopeDance x = with("square a twist 3 turn twist 2; square b back 2 turn back 3; square c turn; square d;");
         int[][] due = {{5, 3, 1}, {5, 3, 1}, {1, 0, 1}, {0, 0, 2}};
         for (int square = 0; square < 4; square++) {
@@ -960,7 +876,7 @@ public final class Promises {
     }
 
     private static void colours() {
-        promise = "23";
+        about = "promise 23";
         RopeDance x = with("square a twist 6; square b turn; square c; square d back 9;");
         is("6 of 4", x.colours(0, 4), 8);
         is("6 of 5", x.colours(0, 5), 5);
@@ -978,7 +894,7 @@ public final class Promises {
     }
 
     private static void joined() {
-        promise = "24";
+        about = "promise 24";
         RopeDance x = with("square a twist 3 turn twist 2; square b back 1; square c turn; square d;");
         is("5 / 3 and -1 / 1", x.joined(0, 1), 2);
         is("5 / 3 and 1 / 0", x.joined(0, 2), 3);
@@ -991,7 +907,7 @@ public final class Promises {
     }
 
     private static void orders() {
-        promise = "25";
+        about = "promise 25";
         RopeDance x = with("figure a; figure b turn; figure c turn twist 1; figure d twist 1; figure e twist 3 turn twist 1;");
         int[] due = {1, 2, 3, -2, -2};
         for (int figure = 0; figure < 5; figure++) {
@@ -1007,7 +923,7 @@ public final class Promises {
     }
 
     private static void rounds() {
-        promise = "26";
+        about = "promise 26";
         RopeDance x = with("figure a; figure b turn; figure c turn twist 1; figure d twist 1; figure e twist 3 turn;");
         is("no MOVES", x.round(0, 9), 1);
         is("a turn", x.round(1, 7), 2);
@@ -1027,7 +943,7 @@ public final class Promises {
     }
 
     private static void powers() {
-        promise = "27";
+        about = "promise 27";
         RopeDance x = with("figure a twist 1; figure b turn; figure c back 2 turn;");
         int[] due = {1, 6, 0, 1};
         for (int what = 0; what < 4; what++) {
@@ -1065,7 +981,7 @@ public final class Promises {
     }
 
     private static void staying() {
-        promise = "28";
+        about = "promise 28";
         RopeDance x = with("figure a; figure b twist 3; figure c turn; figure d turn twist 2; figure e turn twist 3;");
         stay(x, 0, 12016, 1, 0);
         stay(x, 1, 1, 1, 0);
@@ -1092,7 +1008,7 @@ public final class Promises {
     }
 
     private static void minding() {
-        promise = "29";
+        about = "promise 29";
         RopeDance x = with("figure a twist 1; figure b twist 3; figure c turn; figure d; figure e turn turn;");
         is("twists", x.mind(0, 1), 0);
         is("a twist and a turn", x.mind(0, 2), 1);
@@ -1105,7 +1021,7 @@ public final class Promises {
     }
 
     private static void reversing() {
-        promise = "30";
+        about = "promise 30";
         RopeDance x = with("figure a twist 2; figure b turn; figure c back 1 back 1; figure d turn turn turn; figure e turn back 2;");
         is("twist", x.reverse(0), 2);
         is("turn", x.reverse(1), 1);
@@ -1122,7 +1038,7 @@ public final class Promises {
     }
 
     private static void hands() {
-        promise = "31";
+        about = "promise 31";
         RopeDance x = with("figure a; figure b twist 1; figure c turn; figure d twist 2; figure e back 1 turn;");
         int[][] due = {{0, 1, 2}, {1, 0, 2}, {2, 1, 0}, {0, 1, 2}, {1, 2, 0}};
         for (int figure = 0; figure < 5; figure++) {
@@ -1137,7 +1053,7 @@ public final class Promises {
     }
 
     private static void thens() {
-        promise = "32";
+        about = "promise 32";
         RopeDance x = with("square a; square b twist 2; figure r twist 1; figure s turn; figure t back 2; seed 42;"
             + "slips = 40; tires = 3 + cross; rests = 2;");
         x.minutes(3);
@@ -1164,7 +1080,7 @@ public final class Promises {
     }
 
     private static void years() {
-        promise = "33";
+        about = "promise 33";
         String text = "square a; square b twist 1; figure r twist 1; figure s turn; figure t back 1; slips = 20; seed ";
         for (int n = 0; n <= 6; n += 3) {
             int due = 0;
@@ -1193,7 +1109,7 @@ public final class Promises {
     }
 
     private static void telling() {
-        promise = "34";
+        about = "promise 34";
         RopeDance x = new RopeDance();
         is("i 0", x.tell(0, 0, true), -1);
         is("i 5", x.tell(5, 0, true), -1);
@@ -1209,7 +1125,7 @@ public final class Promises {
     }
 
     private static void forgetting() {
-        promise = "35";
+        about = "promise 35";
         RopeDance x = new RopeDance();
         is("nothing", x.forget(), 0);
         x.tell(1, 0, true);
@@ -1220,7 +1136,7 @@ public final class Promises {
     }
 
     private static void rows() {
-        promise = "36";
+        about = "promise 36";
         RopeDance x = with("square a; square b twist 9 twist 9 twist 9 twist 9; figure t twist 1; figure u turn;"
             + "figure v twist 9 twist 9 twist 9 twist 9 twist 9 twist 9 twist 9;");
         is("of 1", x.rows(0, 0, 1, 0), 3);
@@ -1264,7 +1180,7 @@ public final class Promises {
     }
 
     private static void listening() {
-        promise = "37";
+        about = "promise 37";
         RopeDance x = with("square a; figure t twist 1; figure u turn; figure v twist 2;");
         // behind the first: 1, 2, 0: one each
         is("of 1", x.listen(0, 0, 1), 1);
@@ -1300,7 +1216,7 @@ public final class Promises {
     }
 
     private static void holding() {
-        promise = "38";
+        about = "promise 38";
         RopeDance x = with("square a twist 2; figure f twist 1;");
         is("slot 3", x.hold(3), false);
         is("slot -1", x.hold(-1), false);
@@ -1319,7 +1235,7 @@ public final class Promises {
     }
 
     private static void restoring() {
-        promise = "39";
+        about = "promise 39";
         RopeDance x = with("square a twist 2; square b turn; figure f twist 1; tires = 3;");
         is("nothing is held", x.restore(0), false);
         is("no such slot", x.restore(3), false);
@@ -1356,7 +1272,7 @@ public final class Promises {
     }
 
     private static void counting() {
-        promise = "40";
+        about = "promise 40";
         RopeDance x = with("square a twist 3 turn twist 2; square b twist 4; square c turn; square d; figure f twist 2; figure g;"
             + "tires = 7; pays = 2;");
         x.call(0, 0);
