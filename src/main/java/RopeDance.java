@@ -1745,7 +1745,7 @@ public final class RopeDance {
             start = number;
             forgetFound();
             add(number, START);
-            for (int i = 0; i < found; i++) {
+            for (int i = 0; i < found && i < queue.length; i++) {
                 for (int figure = 0; figure < text.figures; figure++) {
                     Row row = text.figureRows[figure];
                     tried.p = queue[i] / (Square.MOST + 1) - Square.MOST;
